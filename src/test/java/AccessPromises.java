@@ -87,6 +87,7 @@ public final class AccessPromises {
         Check.due("b goes for c", accessed("abcaca").faultsWith(2, 2), 3);
         Check.due("a goes for c", accessed("bacbcb").faultsWith(2, 2), 3);
         Check.due("the one whose next access comes last goes", accessed("abcdcabd").faultsWith(3, 2), 5);
+        Check.due("the first access counts, too", accessed("abcab").faultsWith(2, 2), 4);
         Check.due("a hit tells a new next access", accessed("abacba").faultsWith(2, 2), 4);
     }
 
@@ -144,6 +145,7 @@ public final class AccessPromises {
 
     private static void hottest() {
         Check.promise(59);
+        Check.due("page 0", accessed("bcadbaca").hottestPage(), 0);
         CheckpointSwap x = accessed("pcbbcp");
         Check.due("of several the lowest", x.hottestPage(), 1);
         x.readPage(1, 7);

@@ -202,5 +202,12 @@ public final class BarrierPromises {
         Check.due("undone", x.barrierLog(0, 1), 10);
         Check.due("undone", x.barrierLog(7, 1), 3);
         Check.due("all commits", x.total(3), 9);
+        Check.script(x, "write 0 0 8;write 0 1 8;barrier 1;flush 48;");
+        x.abandonBarrier();
+        x.startBarrier(1);
+        x.undo();
+        x.undo();
+        x.commitBarrier();
+        Check.due("pages to be written, after undo", x.barrierLog(0, 2), 2);
     }
 }

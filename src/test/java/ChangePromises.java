@@ -347,8 +347,8 @@ public final class ChangePromises {
         Check.due("all operations", Check.script(x, "write 0 1 5;read\n0 01 ; barrier 1;flush 48;commit;write 0 1 999999999;"
                 + "barrier 3;abandon;rollback 0;write 1 0 3;evict 1 0;crash;"), 12);
         Check.due("one change", x.undoDepth(), 3);
-        Check.due("the buffer is empty", x.truncateText(0), 0);
         Check.argument("the buffer is empty", () -> x.truncateText(1));
+        Check.due("the buffer is empty", x.truncateText(0), 0);
         Check.due("value", x.peek(0, 1), 5);
         Check.due("epoch", x.epoch(), 2);
         Check.due("accesses", x.total(0), 4);
@@ -358,6 +358,10 @@ public final class ChangePromises {
         Check.due("undo", x.undo(), 2);
         Check.due("all undone", x.total(0) + x.epoch() + x.total(4), 0);
         Check.due("no blanks", Check.script(x, "write0 0 7;crash;"), 2);
+        Check.due("a checkpoint of both", Check.script(x, "write 0 1 5;write 1 0 6;barrier 3;flush 9;commit;"), 5);
+        Check.due("rollback", Check.script(x, "write 0 1 7;write 1 0 8;rollback 1;"), 3);
+        Check.due("of this process", x.peek(1, 0), 6);
+        Check.due("not of the other one", x.peek(0, 1), 7);
     }
 
     private static void wrongScript(CheckpointSwap x, String text, int position) {
@@ -365,8 +369,8 @@ public final class ChangePromises {
         int depth = x.undoDepth();
         int accesses = x.total(0);
         Check.due("<" + text + ">", Check.script(x, text), -1 - position);
-        Check.due("the buffer is empty", x.truncateText(0), 0);
         Check.argument("the buffer is empty", () -> x.truncateText(1));
+        Check.due("the buffer is empty", x.truncateText(0), 0);
         Check.dueText("nothing changes by <" + text + ">", Check.reportOf(x), before);
         Check.due("no change", x.undoDepth(), depth);
         Check.due("no access", x.total(0), accesses);
@@ -385,6 +389,14 @@ public final class ChangePromises {
         wrongScript(x, "read 0;", 6);
         wrongScript(x, "read 0 x;", 7);
         wrongScript(x, "reads 0 0;", 0);
+        wrongScript(x, "crashz;", 0);
+        wrongScript(x, "crasha;", 0);
+        wrongScript(x, "xcrash;", 0);
+        wrongScript(x, "drash;", 0);
+        wrongScript(x, "crash`;", 5);
+        wrongScript(x, "crash{;", 5);
+        wrongScript(x, "read 0 /;", 7);
+        wrongScript(x, "read 0 :;", 7);
         wrongScript(x, "read 0 0;;", 9);
         wrongScript(x, "read 0 0;5", 9);
         wrongScript(x, "read 0 0;A", 9);

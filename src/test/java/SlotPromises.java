@@ -128,6 +128,15 @@ public final class SlotPromises {
         Check.promise(39);
         x.crash();
         Check.due("all", x.freeSlots(), 6);
+        Check.promise(42);
+        Check.script(x, "write 0 0 1;write 0 1 1;write 0 2 1;evict 0 0;evict 0 1;evict 0 2;crash;");
+        for (int slot = 0; slot < 6; slot++) {
+            Check.due("all have the same stamp", x.freeSlot(slot), slot);
+        }
+        Check.script(x, "barrier 1;write 0 0 1;evict 0 0;crash;");
+        for (int index = 0; index < 6; index++) {
+            Check.due("slot 0 has the greatest stamp", x.freeSlot(index), (index + 1) % 6);
+        }
     }
 
     private static void runs() {
@@ -156,6 +165,7 @@ public final class SlotPromises {
         Check.script(x, "write 0 0 4;write 0 1 4;write 0 2 5;write 0 3 4;write 0 4 0;");
         Check.script(x, "evict 0 0;evict 0 1;evict 0 2;evict 0 3;evict 0 4;");
         Check.due("two others", x.twins(0), 2);
+        Check.due("slot 0 is one of them", x.twins(1), 2);
         Check.due("none", x.twins(2), 0);
         Check.due("a free slot with 0 does not count", x.twins(4), 0);
         x.writePage(0, 1, 9);

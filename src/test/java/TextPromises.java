@@ -73,8 +73,8 @@ public final class TextPromises {
         Check.due("fifo", x.total(7), 1);
         Check.due("many blanks", Check.parse(x, " \n\n system\n000000002  3 lru\n ; process\nint\n4\n;\n "), 1);
         Check.due("nine digits", x.frameCount(), 2);
-        Check.due("the buffer is empty", x.truncateText(0), 0);
         Check.argument("the buffer is empty", () -> x.truncateText(1));
+        Check.due("the buffer is empty", x.truncateText(0), 0);
         Check.due("wrong text", Check.parse(x, "system 1 1 lru;"), -1);
         Check.argument("the buffer is empty after an error", () -> x.truncateText(1));
         Check.due("the system stays", x.frameCount(), 2);
@@ -109,6 +109,10 @@ public final class TextPromises {
             Check.due("page", x.peek(0, page), 0);
             Check.due("state", x.pageState(0, page), 0);
         }
+        x.writePage(0, 0, 1);
+        Check.parse(x, "system 1 4 clean;process int 4;process float 2;");
+        Check.due("nothing is dirty", x.dirtyPages(0), 0);
+        Check.due("nothing is dirty", x.total(6), 0);
     }
 
     private static void error(String text, int code, int position) {
@@ -128,6 +132,8 @@ public final class TextPromises {
         error("  \n", 1, 3);
         error("syste 1 1 lru;process int 1;", 1, 0);
         error("systems 1 1 lru;process int 1;", 1, 0);
+        error("systemz 1 1 lru;process int 1;", 1, 0);
+        error("system{1 1 lru;process int 1;", 1, 6);
         error("System 1 1 lru;process int 1;", 1, 0);
         error(" ;", 1, 1);
         error("12 1 1 lru;", 1, 0);
