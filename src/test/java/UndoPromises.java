@@ -8,80 +8,47 @@ public final class UndoPromises {
         Check.end(64, 65);
     }
 
-    /** All that can be asked of the state, as one text. */
-    private static String all(CheckpointSwap x) {
-        StringBuilder text = new StringBuilder(Check.reportOf(x));
-        for (int process = 0; process < x.processCount(); process++) {
-            for (int page = 0; page < x.pageCount(process); page++) {
-                text.append(' ').append(x.peek(process, page)).append(' ').append(x.frameOf(process, page));
-                text.append(' ').append(x.slotOf(process, page));
-                if (x.checkpointEpoch(process) >= 0) {
-                    text.append(' ').append(x.checkpointSlot(process, page));
-                }
-            }
-        }
-        for (int slot = 0; slot < x.slotCount(); slot++) {
-            text.append(' ').append(x.slotUse(slot)).append(' ').append(x.slotOwner(slot));
-            text.append(' ').append(x.slotStamp(slot)).append(' ').append(x.slotValue(slot));
-        }
-        for (int frame = 0; frame < x.frameCount(); frame++) {
-            text.append(' ').append(x.frameOwner(frame));
-            if (x.frameOwner(frame) >= 0) {
-                text.append(' ').append(x.frameTime(frame, 0)).append(' ').append(x.frameTime(frame, 1));
-            }
-        }
-        for (int what = 0; what < 8; what++) {
-            text.append(' ').append(x.total(what));
-        }
-        for (int index = 0; index < Math.min(8, x.total(3)); index++) {
-            text.append(' ').append(x.barrierLog(index, 0)).append(' ').append(x.barrierLog(index, 2));
-        }
-        text.append(' ').append(x.barrierSet()).append(' ').append(x.pendingPages());
-        text.append(' ').append(x.workingSet(64)).append(' ').append(x.faultsWith(1, 0));
-        return text.toString();
-    }
-
     private static void eachChange() {
         Check.promise(64);
         CheckpointSwap x = Check.system("system 2 5 lru;process int 3;process float 2;");
         Check.state("none", () -> x.undo());
         Check.script(x, "write 0 0 1;write 1 1 2;barrier 3;flush 9;commit;write 0 0 2;write 0 1 3;");
         String[] states = new String[11];
-        states[0] = all(x);
+        states[0] = Snapshot.ofState(x);
         x.writePage(0, 2, 3);
-        states[1] = all(x);
+        states[1] = Snapshot.ofState(x);
         x.startBarrier(3);
-        states[2] = all(x);
+        states[2] = Snapshot.ofState(x);
         x.writeBarrier(1);
-        states[3] = all(x);
+        states[3] = Snapshot.ofState(x);
         x.evictPage(0, 2);
-        states[4] = all(x);
+        states[4] = Snapshot.ofState(x);
         x.commitBarrier();
-        states[5] = all(x);
+        states[5] = Snapshot.ofState(x);
         x.readPage(1, 0);
         x.rollback(0);
-        states[6] = all(x);
+        states[6] = Snapshot.ofState(x);
         x.setPolicy(2);
-        states[7] = all(x);
+        states[7] = Snapshot.ofState(x);
         Check.script(x, "write 1 0 1;barrier 2;");
-        states[8] = all(x);
+        states[8] = Snapshot.ofState(x);
         x.abandonBarrier();
-        states[9] = all(x);
+        states[9] = Snapshot.ofState(x);
         for (int k = 8; k >= 6; k--) {
             Check.due("left", x.undo(), k + 1);
-            Check.dueText("state " + k, all(x), states[k]);
+            Check.dueText("state " + k, Snapshot.ofState(x), states[k]);
         }
         Check.due("left", x.undo(), 6);
         Check.due("left", x.undo(), 5);
         for (int k = 5; k >= 1; k--) {
-            Check.dueText("state " + k, all(x), states[k]);
+            Check.dueText("state " + k, Snapshot.ofState(x), states[k]);
             Check.due("left", x.undo(), k - 1);
         }
-        Check.dueText("state 0", all(x), states[0]);
+        Check.dueText("state 0", Snapshot.ofState(x), states[0]);
         Check.state("the eleventh", () -> x.undo());
         x.crash();
         x.undo();
-        Check.dueText("state 0 after a crash", all(x), states[0]);
+        Check.dueText("state 0 after a crash", Snapshot.ofState(x), states[0]);
     }
 
     private static void depth() {

@@ -7,7 +7,9 @@ final class Check {
         long run();
     }
 
+    private static String place = "";
     private static int promise;
+    private static int done;
     private static int wrong;
     private static final int[] counts = new int[66];
 
@@ -17,17 +19,24 @@ final class Check {
     /** The checks that follow belong to this promise. */
     static void promise(int number) {
         promise = number;
+        place = "promise " + number;
+    }
+
+    /** The checks that follow belong to this section of the document's description. */
+    static void section(int number) {
+        promise = 0;
+        place = "section " + number;
     }
 
     static void due(String what, long got, long want) {
-        counts[promise]++;
+        count();
         if (got != want) {
             report(what + " answered " + got + ", due is " + want);
         }
     }
 
     static void dueText(String what, String got, String want) {
-        counts[promise]++;
+        count();
         if (!got.equals(want)) {
             report(what + " answered <" + got + ">, due is <" + want + ">");
         }
@@ -35,7 +44,7 @@ final class Check {
 
     /** The exception must be of this very class: what the machine throws is of a class below. */
     static void dueThrow(String what, Class<? extends RuntimeException> want, Call call) {
-        counts[promise]++;
+        count();
         try {
             long got = call.run();
             report(what + " answered " + got + ", due is " + want.getSimpleName());
@@ -66,22 +75,30 @@ final class Check {
         dueThrow(what, UnsupportedOperationException.class, call);
     }
 
-    private static void report(String text) {
+    private static void count() {
+        counts[promise]++;
+        done++;
+    }
+
+    /** How many checks there were until now. */
+    static int done() {
+        return done;
+    }
+
+    static void report(String text) {
         wrong++;
-        System.out.println("promise " + promise + ": " + text);
+        System.out.println(place + ": " + text);
     }
 
     /** Each of these promises must have been checked. */
     static void end(int first, int last) {
         List<Integer> without = new ArrayList<>();
-        int all = 0;
         for (int k = first; k <= last; k++) {
-            all += counts[k];
             if (counts[k] == 0) {
                 without.add(k);
             }
         }
-        System.out.println(all + " checks of promises " + first + " to " + last + ", " + wrong + " wrong");
+        System.out.println(done + " checks of promises " + first + " to " + last + ", " + wrong + " wrong");
         if (!without.isEmpty()) {
             System.out.println("promises without a check: " + without);
         }
@@ -90,7 +107,7 @@ final class Check {
         }
     }
 
-    /** Appends a text of any length to the buffer. */
+    /** Puts a text of at most 400 characters into the buffer, in place of what is in it. */
     static void put(CheckpointSwap x, String text) {
         int length = x.truncateText(0);
         for (int k = 0; k < text.length(); k += 20) {
@@ -99,7 +116,7 @@ final class Check {
         x.truncateText(length + text.length());
     }
 
-    private static int word(String text, int from) {
+    static int word(String text, int from) {
         int word = 0;
         for (int k = from; k < from + 4; k++) {
             word = word << 8 | (k < text.length() ? text.charAt(k) & 255 : ' ');
@@ -121,6 +138,15 @@ final class Check {
         CheckpointSwap x = new CheckpointSwap();
         if (parse(x, text) < 1) {
             throw new AssertionError("the test's own text is wrong: " + text);
+        }
+        return x;
+    }
+
+    /** A system after a script, which is one change. */
+    static CheckpointSwap after(String text, String script) {
+        CheckpointSwap x = system(text);
+        if (script(x, script) < 0) {
+            throw new AssertionError("the test's own script is wrong: " + script);
         }
         return x;
     }

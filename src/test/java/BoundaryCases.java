@@ -1,0 +1,20 @@
+/**
+ * The document's boundary cases, sentence by sentence: each test names its sentence, and at the end each sentence of the
+ * description and of the promises must have been named and checked.
+ */
+public final class BoundaryCases {
+    public static void main(String[] args) {
+        SystemEdges.run();
+        RecordEdges.run();
+        TextEdges.run();
+        ScriptEdges.run();
+        UndoEdges.run();
+        ChangeEdges.run();
+        PageEdges.run();
+        SlotEdges.run();
+        BarrierEdges.run();
+        AccessEdges.run();
+        Document.end();
+        Check.end(1, 65);
+    }
+}
