@@ -11,9 +11,9 @@ import java.util.List;
  */
 public final class AnyArguments {
     private static final int[] FEW = {0, 1, 7, 8, -1, 48, Integer.MIN_VALUE, Integer.MAX_VALUE};
-    private static final int[] MANY = {0, 1, 2, 3, 4, 5, 6, 7, 8, 9, 15, 16, 17, 31, 32, 33, 47, 48, 49, 63, 64, 65, 255, 256,
-        379, 380, 381, 399, 400, 401, 511, 512, 1 << 29, 1 << 30, Integer.MAX_VALUE - 1, Integer.MAX_VALUE, -1, -2, -7, -8, -9,
-        -32, -48, -64, -400, Integer.MIN_VALUE, Integer.MIN_VALUE + 1};
+    private static final int[] MANY = {0, 1, 2, 3, 4, 5, 6, 7, 8, 9, 15, 16, 17, 31, 32, 33, 47, 48, 49, 63, 64, 65, 255,
+        256, 379, 380, 381, 399, 400, 401, 511, 512, 1 << 29, 1 << 30, Integer.MAX_VALUE - 1, Integer.MAX_VALUE, -1, -2,
+        -7, -8, -9, -32, -48, -64, -400, Integer.MIN_VALUE, Integer.MIN_VALUE + 1};
 
     private static int calls;
     private static int wrong;

@@ -109,12 +109,15 @@ final class AccessEdges {
         Check.due("the very last access counts", accessed("abcba").faultsWith(2, 2), 4);
         Check.due("an access before does not count", accessed("babcac").faultsWith(2, 2), 3);
         Check.due("each access a fault at first", accessed("abcdabeabcde").faultsWith(3, 2), 7);
+        Check.due("b is not accessed any more, a only at the end", accessed("ab" + "c".repeat(61) + "a").faultsWith(2,
+                2), 3);
+        int[] spread = {0, 15, 16, 31, 47};
         int seed = 1;
         for (int run = 0; run < 200; run++) {
             StringBuilder pages = new StringBuilder();
             for (int k = 0; k < 11; k++) {
                 seed = seed * 1664525 + 1013904223;
-                pages.append((char) ('a' + (seed >>> 16) % 5));
+                pages.append((char) ('a' + spread[(seed >>> 16) % 5]));
             }
             int frames = 1 + run % 4;
             Check.due(pages + " in " + frames, accessed(pages.toString()).faultsWith(frames, 2),
@@ -284,7 +287,8 @@ final class AccessEdges {
         Check.script(x, "write 0 0 1;write 0 1 2;read 0 0;write 1 0 3;barrier 3;flush 9;commit;crash;crash;crash;"
                 + "write 0 2 4;write 1 1 5;write 1 0 3;");
         String[] sentences = {"- `what`: 0: accesses;", "1: faults;", "2: values written into slots;",
-            "3: committed barriers;", "4: crashes;", "5: the sum of lostPages() over all processes, counted in pages, now;",
+            "3: committed barriers;", "4: crashes;", "5: the sum of lostPages() over all processes, counted in pages, "
+            + "now;",
             "6: dirty pages now;", "7: the policy"};
         int[] due = {7, 6, 4, 1, 3, 2, 2, 2};
         for (int what = 0; what < 8; what++) {
@@ -309,6 +313,14 @@ final class AccessEdges {
             Check.due("parsed", most.total(what), 0);
         }
         Check.due("the policy of the text", most.total(7), 2);
+        CheckpointSwap spent = new CheckpointSwap();
+        spent.appendText(0x73797374, 0x656d2032, 0x2034206c, 0x72753b70, 0x726f6365);
+        spent.appendText(0x73732069, 0x6e742032, 0x3b202020, 0x20202020, 0x20202020);
+        spent.parseSystem();
+        for (int call = 4; call <= 511; call++) {
+            spent.writePage(0, call % 2, call);
+        }
+        Check.due("the 512th call", spent.total(0), 508);
         Document.promise(61, "Throws `IllegalArgumentException` if what is not 0 to 7");
         Refusal.notBetween(0, 7, Scenes::quiet, (y, what) -> y.total(what));
         Refusal.notBetween(0, 7, Scenes::unparsed, (y, what) -> y.total(what));
@@ -350,6 +362,11 @@ final class AccessEdges {
                 + "process 0 int checkpoint none 0\nprocess 1 float checkpoint none 0 0 0 0 0 0 0 2\n"
                 + "process 2 int checkpoint none 0\nprocess 3 float checkpoint none 0\n"
                 + "process 4 int checkpoint none 0 0 0 0 0 0 0 0\nprocess 5 float checkpoint none 0\n");
+        CheckpointSwap crashed = crashed();
+        crashed.readPage(2, 0);
+        Check.dueText("after a crash", Check.reportOf(crashed), "epoch 2 free 4 accesses 7\n"
+                + "process 0 int checkpoint 1 1 1 0\nprocess 1 float checkpoint 1 0 1\n"
+                + "process 2 int checkpoint none 2\n");
         Document.promise(62, "All numbers are decimal.");
         CheckpointSwap x = Check.system("system 1 48 lru;process int 1;");
         int[] steps = {8, 1, 1, 89, 1, 1, 900};

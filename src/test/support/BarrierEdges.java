@@ -213,6 +213,14 @@ final class BarrierEdges {
         Check.due("all but the last process", last.wouldFree(31), 0);
         last.writePage(0, 0, 2);
         Check.due("all processes", last.wouldFree(63), 2);
+        for (int k = 0; k < 48; k++) {
+            CheckpointSwap each = Check.system("system 3 9 lru;" + Scenes.SIX);
+            each.writePage(k / 8, k % 8, 1);
+            Check.script(each, "barrier 63;flush 48;commit;");
+            each.writePage(k / 8, k % 8, 2);
+            Check.due("page " + k, each.wouldFree(1 << k / 8), 1);
+            Check.due("all processes without that of page " + k, each.wouldFree(63 - (1 << k / 8)), 0);
+        }
         Document.promise(51, "Throws `IllegalArgumentException` if the set is empty or contains something that is no "
                 + "process");
         Refusal.noSet(Scenes::quiet, (y, set) -> y.wouldFree(set));
@@ -271,6 +279,17 @@ final class BarrierEdges {
         Document.promise(52, "IllegalStateException if a barrier is in progress");
         Refusal.state("busy", Scenes::busy, y -> y.bestBarrier(0));
         Refusal.state("all written", Scenes::written, y -> y.bestBarrier(48));
+        CheckpointSwap x = Check.after("system 2 2 lru;process int 1;process int 1;", "write 1 0 5;barrier 1;");
+        Check.state("nothing to write", () -> x.bestBarrier(48));
+        x.commitBarrier();
+        Check.due("committed", x.bestBarrier(48), 2);
+        x.startBarrier(2);
+        Check.state("another one", () -> x.bestBarrier(48));
+        x.abandonBarrier();
+        Check.due("abandoned", x.bestBarrier(48), 2);
+        x.startBarrier(3);
+        x.crash();
+        Check.due("crashed", x.bestBarrier(48), 1);
     }
 
     private static void lost() {

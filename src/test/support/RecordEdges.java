@@ -246,7 +246,8 @@ final class RecordEdges {
         Check.due("free slots keep what they contain", x.slotValue(3), 5);
         Check.due("a free slot with a value", x.slotUse(3), 0);
         x.readPage(0, 0);
-        Check.due("the time goes on", x.frameTime(0, 1), x.total(0));
+        Check.due("the time goes on", x.frameTime(0, 0), 7);
+        Check.due("the time goes on", x.frameTime(0, 1), 7);
         Check.due("the barriers go on", x.startBarrier(1) + x.epoch(), 3);
     }
 

@@ -3,8 +3,8 @@ final class Scenes {
     /** The most processes and pages that there can be. */
     static final String SIX = "process int 8;process int 8;process int 8;process int 8;process int 8;process int 8;";
 
-    static final Refusal.Scene[] ALL = {CheckpointSwap::new, Scenes::unparsed, Scenes::quiet, Scenes::busy, Scenes::written,
-        Scenes::full, Scenes::fullInBarrier};
+    static final Refusal.Scene[] ALL = {CheckpointSwap::new, Scenes::unparsed, Scenes::quiet, Scenes::busy,
+        Scenes::written, Scenes::full, Scenes::fullInBarrier};
 
     private Scenes() {
     }
@@ -72,6 +72,19 @@ final class Scenes {
             x.writePage(0, page, 10 + page);
         }
         return withTexts(x);
+    }
+
+    /** The greatest system: 32 pages in slots, 16 dirty ones in all frames, 16 free slots, and a barrier for all. */
+    static CheckpointSwap large() {
+        CheckpointSwap x = Check.system("system 16 48 lru;" + SIX);
+        for (int k = 0; k < 40; k++) {
+            x.readPage(k % 6, k % 8);
+        }
+        for (int k = 0; k < 48; k++) {
+            x.writePage(k / 8, k % 8, 100 + k);
+        }
+        x.startBarrier(63);
+        return x;
     }
 
     /** As full(), and the pages in the frames are still to be written for a barrier. */

@@ -45,8 +45,19 @@ final class ScriptEdges {
         as("barrier 2;abandon;", x -> x.startBarrier(2) + x.abandonBarrier());
         as("crash;", x -> x.crash());
         as("rollback 0;", x -> x.rollback(0));
-        as("write 1 0 5;write 0 1 6;rollback 1;", x -> x.writePage(1, 0, 5) + x.writePage(0, 1, 6) + x.rollback(1));
+        as("write 0 1 6;write 1 0 5;rollback 1;", x -> x.writePage(0, 1, 6) + x.writePage(1, 0, 5) + x.rollback(1));
+        as("write 1 0 5;write 0 1 6;rollback 0;", x -> x.writePage(1, 0, 5) + x.writePage(0, 1, 6) + x.rollback(0));
         as("evict 0 2;", x -> x.evictPage(0, 2));
+        CheckpointSwap wrongBefore = scene();
+        CheckpointSwap rightBefore = scene();
+        wrongBefore.writePage(1, 0, 5);
+        rightBefore.writePage(1, 0, 5);
+        for (String wrong : new String[] {"read 0 8;", "write 0 8 8;", "evict 1 8;"}) {
+            Check.script(wrongBefore, wrong);
+        }
+        Check.script(wrongBefore, "rollback 0;");
+        rightBefore.rollback(0);
+        Check.dueText("numbers of an earlier script", Snapshot.ofState(wrongBefore), Snapshot.ofState(rightBefore));
         CheckpointSwap x = scene();
         Check.due("each after the other", Check.script(x, "write 0 0 7;evict 0 0;read 0 0;rollback 0;read 0 0;"), 5);
         Check.due("the last one read it", x.peek(0, 0), 1);
@@ -131,8 +142,8 @@ final class ScriptEdges {
         Document.section(5, "and at the first byte of the word of an operation for which the corresponding method "
                 + "would throw an exception.");
         String[] refused = {"read 3 0;", "read 0 3;", "read 999999999 999999999;", "write 3 0 1;", "write 1 1 1;",
-            "barrier 0;", "barrier 8;", "barrier 999999999;", "flush 1;", "flush 0;", "commit;", "abandon;", "rollback 2;",
-            "rollback 3;", "evict 0 3;", "evict 3 0;", "evict 1 0;"};
+            "barrier 0;", "barrier 8;", "barrier 999999999;", "flush 1;", "flush 0;", "commit;", "abandon;",
+            "rollback 2;", "rollback 3;", "evict 0 3;", "evict 3 0;", "evict 1 0;"};
         for (String each : refused) {
             wrong(each, 0);
             wrong("\n  " + each, 3);

@@ -254,6 +254,11 @@ final class SystemEdges {
         x.writeBarrier(1);
         Check.due("the last free one", x.slotOf(0, 2), 1);
 
+        CheckpointSwap later = Check.after("system 3 3 lru;process int 3;", "barrier 1;abandon;write 0 0 1;"
+                + "write 0 1 1;write 0 2 1;evict 0 0;evict 0 1;evict 0 2;barrier 1;abandon;write 0 0 2;evict 0 0;"
+                + "write 0 0 3;write 0 2 3;");
+        Check.due("slot 0 has stamp 2, slot 2 has stamp 1", later.evictPage(0, 0), 2);
+
         Document.section(1, "of several the one with the lowest number.");
         CheckpointSwap y = Check.after("system 4 4 lru;process int 4;",
                 "write 0 0 1;write 0 1 1;write 0 2 1;write 0 3 1;evict 0 0;evict 0 1;evict 0 2;evict 0 3;");

@@ -332,7 +332,8 @@ final class TextEdges {
         }
         Document.promise(4, "NONE if the text has an error, and then the system stays.");
         String head = "system 2 2 lru;";
-        for (String text : new String[] {"", head, head + "process int 9;", head + SIX + "process", head + ONE + "process"}) {
+        String[] wrong = {"", head, head + "process int 9;", head + SIX + "process", head + ONE + "process"};
+        for (String text : wrong) {
             CheckpointSwap y = Scenes.busy();
             Check.due("<" + text + ">", Check.parse(y, text), -1);
             Check.dueText("the system stays", Snapshot.ofState(y), Snapshot.ofState(Scenes.busy()));

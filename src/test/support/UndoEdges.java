@@ -8,6 +8,7 @@ final class UndoEdges {
 
     static void run() {
         changes();
+        large();
         ten();
         ring();
         parsed();
@@ -34,11 +35,12 @@ final class UndoEdges {
         change("writeBarrier with no slot", Scenes::fullInBarrier, x -> x.writeBarrier(48));
         change("commitBarrier", Scenes::written, x -> x.commitBarrier());
         change("abandonBarrier", Scenes::busy, x -> x.abandonBarrier());
-        CheckpointSwap again = Scenes.written();
+        CheckpointSwap again = Scenes.busy();
         again.abandonBarrier();
         again.undo();
+        again.writeBarrier(48);
         again.commitBarrier();
-        Check.due("the barrier has back how many pages it had to write", again.barrierLog(0, 2), 2);
+        Check.due("the barrier has back how many pages it had to write", again.barrierLog(0, 2), 3);
         change("crash", Scenes::busy, x -> x.crash());
         change("crash without processes", CheckpointSwap::new, x -> x.crash());
         change("rollback", Scenes::quiet, x -> x.rollback(0));
@@ -69,6 +71,52 @@ final class UndoEdges {
             y.undo();
             Check.dueText("a state before " + what, Snapshot.ofState(x), Snapshot.ofState(y));
         }
+    }
+
+    /** Every page, frame, slot, checkpoint and recent access of the greatest system comes back. */
+    private static void large() {
+        Document.section(6, "undo() restores the state before the latest change that was not undone;");
+        change("crash", Scenes::large, x -> x.crash());
+        change("writeBarrier", Scenes::large, x -> x.writeBarrier(48));
+        change("commitBarrier", UndoEdges::largeWritten, x -> x.commitBarrier());
+        change("hits in all frames", UndoEdges::largeWritten, x -> Check.script(x, reads(32, 16)));
+        change("faults in all frames", UndoEdges::largeWritten, x -> Check.script(x, reads(0, 16)));
+        change("rollback", UndoEdges::largeCommitted, x -> x.rollback(5));
+        CheckpointSwap x = UndoEdges.largeCommitted();
+        String before = Snapshot.ofState(x);
+        x.crash();
+        Check.script(x, reads(0, 44));
+        Check.script(x, reads(2, 44));
+        String crashed = Snapshot.ofState(x);
+        Check.script(x, reads(4, 44));
+        x.setPolicy(1);
+        x.undo();
+        x.undo();
+        Check.dueText("after the crash", Snapshot.ofState(x), crashed);
+        x.undo();
+        x.undo();
+        x.undo();
+        Check.dueText("before the crash", Snapshot.ofState(x), before);
+    }
+
+    private static CheckpointSwap largeWritten() {
+        CheckpointSwap x = Scenes.large();
+        x.writeBarrier(48);
+        return x;
+    }
+
+    private static CheckpointSwap largeCommitted() {
+        CheckpointSwap x = largeWritten();
+        x.commitBarrier();
+        return x;
+    }
+
+    private static String reads(int first, int count) {
+        StringBuilder text = new StringBuilder();
+        for (int k = first; k < first + count; k++) {
+            text.append("read ").append(k / 8).append(' ').append(k % 8).append(';');
+        }
+        return text.toString();
     }
 
     private static void ten() {
@@ -125,9 +173,29 @@ final class UndoEdges {
         Check.due("only the later one", x.undo(), 0);
         Check.due("value", x.peek(0, 0), 0);
         Check.state("none", () -> x.undo());
+        for (int earlier = 0; earlier <= 13; earlier++) {
+            afterEarlierChanges(earlier);
+        }
         CheckpointSwap y = Scenes.unparsed();
         Check.due("one process", y.parseSystem(), 1);
         Check.state("changes before the first text", () -> y.undo());
+    }
+
+    private static void afterEarlierChanges(int earlier) {
+        CheckpointSwap x = new CheckpointSwap();
+        for (int k = 0; k < earlier; k++) {
+            x.crash();
+        }
+        Check.parse(x, "system 1 1 lru;process int 1;");
+        for (int k = 1; k <= 12; k++) {
+            x.writePage(0, 0, k);
+            Check.due("changes after " + earlier + " earlier ones", x.undoDepth(), Math.min(k, 10));
+        }
+        for (int k = 9; k >= 0; k--) {
+            Check.due("undo after " + earlier + " earlier ones", x.undo(), k);
+            Check.due("value after " + earlier + " earlier ones", x.peek(0, 0), k + 2);
+        }
+        Check.state("no more after " + earlier + " earlier ones", () -> x.undo());
     }
 
     private static void notInTheState() {
